@@ -1,0 +1,30 @@
+import java.io.IOException;
+import java.nio.file.Files;
+import java.nio.file.Path;
+import java.util.regex.Matcher;
+import java.util.regex.Pattern;
+
+/** The rules of ../shared/LANGUAGE.md that a look at the words of the class can tell. It runs in the project's root. */
+public final class LanguageTest {
+    private static final String[] BANNED = {
+        "\\bimport\\b", "\\bpackage\\b", "->", "::", "\\btry\\b", "\\bcatch\\b", "\\bfinally\\b", "\\bthrow\\b",
+        "\\bsynchronized\\b", "\\bassert\\b", "\\binstanceof\\b", "Exact\\b", "\\bFloat\\b", "\\bDouble\\b",
+        "\\bthis\\b", "\\bString\\b", "\\bstatic\\s*\\{", "\\bprotected\\b", "[^\\x00-\\x7f]"};
+
+    public static void main(String[] args) throws IOException {
+        String source = Files.readString(Path.of("src/main/java/GrainReceipts.java"));
+        String code = source.replaceAll("(?s)/\\*.*?\\*/", "").replaceAll("//[^\n]*", "");
+        for (String banned : BANNED) {
+            Check.due("uses of " + banned, Pattern.compile(banned).matcher(code).results().count(), 0);
+        }
+        Matcher made = Pattern.compile("\\bnew\\b").matcher(code);
+        int objects = 0;
+        while (made.find()) {
+            objects++;
+        }
+        // Fields and constructors make these; a call that makes one would add to them.
+        Check.due("places that make an object", objects, 13);
+        Check.due("classes", Pattern.compile("\\bclass\\b").matcher(code).results().count(), 5);
+        Check.end();
+    }
+}
