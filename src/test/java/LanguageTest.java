@@ -1,4 +1,7 @@
 import java.io.IOException;
+import java.lang.reflect.Field;
+import java.lang.reflect.Method;
+import java.lang.reflect.Modifier;
 import java.nio.file.Files;
 import java.nio.file.Path;
 import java.util.regex.Matcher;
@@ -25,6 +28,26 @@ public final class LanguageTest {
         // Fields and constructors make these; a call that makes one would add to them.
         Check.due("places that make an object", objects, 13);
         Check.due("classes", Pattern.compile("\\bclass\\b").matcher(code).results().count(), 5);
+        sizes(GrainReceipts.class);
+        for (Class<?> inner : GrainReceipts.class.getDeclaredClasses()) {
+            Check.due(inner + " is static", Modifier.isStatic(inner.getModifiers()) ? 1 : 0, 1);
+            Check.due(inner + " is public", Modifier.isPublic(inner.getModifiers()) ? 1 : 0, 0);
+            sizes(inner);
+        }
         Check.end();
+    }
+
+    private static void sizes(Class<?> type) {
+        int fields = 0;
+        for (Field field : type.getDeclaredFields()) {
+            boolean isStatic = Modifier.isStatic(field.getModifiers());
+            fields += isStatic ? 0 : 1;
+            Check.due(field + " stays", isStatic && !Modifier.isFinal(field.getModifiers()) ? 1 : 0, 0);
+        }
+        Check.due("some twenty fields of " + type, fields > 20 ? fields : 0, 0);
+        for (Method method : type.getDeclaredMethods()) {
+            int parameters = method.getParameterCount();
+            Check.due("at most seven parameters of " + method, parameters > 7 ? parameters : 0, 0);
+        }
     }
 }
