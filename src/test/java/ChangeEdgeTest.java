@@ -17,6 +17,7 @@ public final class ChangeEdgeTest {
         refusedRestoresNothing();
         orderOfErrors();
         manyCalls();
+        mostMoney();
         Check.end();
     }
 
@@ -286,5 +287,31 @@ public final class ChangeEdgeTest {
         }
         Check.due("made", x.count(4), 170);
         Check.due("lost", x.count(7), 170 * 160);
+    }
+
+    /** The same 512 calls, filled with the greatest loans: each play seizes three of 990000, and no sum wraps around. */
+    private static void mostMoney() {
+        GrainReceipts x = Story.GREATEST.tell();
+        x.set(0, 100);
+        x.set(1, 10);
+        x.set(2, 1);
+        x.price(2, 99);
+        x.price(0, 99);
+        Story.type(x, "l0,0,990000;c0;t1;l0,1,990000;c1;t1;l0,2,990000;c2;t1;");
+        int plays = 430;
+        for (int i = 0; i < plays; i++) {
+            Check.due("play", x.play(), 9);
+        }
+        Check.due("seized", x.count(5), 3 * plays);
+        Check.due("day", x.count(3), 3 * plays);
+        Check.due("money of the first owner", x.ownerOf(0, 0), 990000);
+        for (int lender = 0; lender < 3; lender++) {
+            // The last one to seize has lent nothing on what it seized then.
+            int loans = lender == 2 ? plays - 1 : plays;
+            Check.due("loans seized by " + lender, x.lenderOf(lender, 4), 990000 * plays);
+            Check.due("money of lender " + lender, x.ownerOf(5 + lender, 0), 990000 * loans);
+            int owned = lender == 2 ? 990000 : 0;
+            Check.due("net worth of lender " + lender, x.ownerOf(5 + lender, 4), 990000 * loans + owned);
+        }
     }
 }
